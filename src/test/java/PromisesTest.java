@@ -222,6 +222,15 @@ public final class PromisesTest {
         Due.fault("trim ; @", 1, 7);
         Due.fault("Trim;", 1, 0);
         Due.fault("trims;", 1, 0);
+        Due.fault("trimz;", 1, 0);
+        Due.fault("trima;", 1, 0);
+        Due.fault("trimA;", 1, 0);
+        Due.fault("trimZ;", 1, 0);
+        Due.fault("trim[", 1, 4);
+        Due.fault("trim@", 1, 4);
+        Due.fault("trim`", 1, 4);
+        Due.fault("trim{", 1, 4);
+        Due.fault("hand 1:", 1, 6);
         Due.fault("tri m;", 1, 0);
         Due.fault("trim; ;", 1, 6);
         Due.fault("at;", 1, 0);
@@ -270,6 +279,8 @@ public final class PromisesTest {
         Due.fault("moves if 1=>2 then 1 else 2 end;", 1, 11);
         Due.fault("moves if 1<=2 or 1>=2 and 1#2 and 1=2 or not 1>2 then 1 else 2 end;", 0, -1);
         Due.fault("moves if not then 1 else 2 end;", 1, 13);
+        Due.fault("moves if 1<=", 1, 12);
+        Due.fault("moves if 1<", 1, 11);
         Due.fault("moves not 1;", 1, 6);
         Due.fault("moves 1", 1, 7);
         Due.fault(times("trim;", 24), 0, -1);
@@ -548,6 +559,15 @@ public final class PromisesTest {
         x.stroke(0, 0, false);
         Due.is("added to the ball", x.trim(), 32);
         Due.is("the ball", x.is(2), 32);
+        Due.read(x, "moves dough;");
+        x.by(1);
+        x.dough(0, 300);
+        x.stroke(0, 0, false);
+        x.trim();
+        Due.is("100 of much", x.patch(0, 100), false);
+        Due.is("99 of much", x.patch(0, 99), true);
+        x.stroke(0, 0, false);
+        Due.is("1 of much", x.patch(0, 1), true);
     }
 
     // 13
@@ -629,8 +649,13 @@ public final class PromisesTest {
         x.back();
         x.hand(1);
         x.roll(5);
-        int four = x.foretold(4, 0, 5);
-        Due.is("foretold stops at the end", x.foretold(60, 0, 5), four);
+        for (int i = 0; i < 12; i++) {
+            Due.is("foretold stops at the end", x.foretold(60, 0, i), x.foretold(4, 0, i));
+        }
+        x.roll(4);
+        for (int i = 0; i < 12; i++) {
+            Due.is("nothing comes at the end", x.foretold(1, 0, i), x.of(i, 0));
+        }
     }
 
     // 14
