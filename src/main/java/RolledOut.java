@@ -927,8 +927,8 @@ public final class RolledOut {
             return then;
         }
 
-        /** Strokes on the sheet tried next as on the one tried here; false, if it can't be. */
-        private boolean canTry(int at, int hand, int stroke) {
+        /** A stroke from the sheet at that place, done on the one behind it; false, if it can't be. */
+        private boolean tried(int at, int hand, int stroke) {
             int cell = stroke / 2;
             if (tries[at].cells[cell] <= 0) {
                 return false;
@@ -939,27 +939,27 @@ public final class RolledOut {
         }
 
         int flattest(int hand) {
-            int found = NONE;
+            int lowest = NONE;
             int least = 0;
             tries[0].laysAs(world.sheet);
             for (int stroke = 0; stroke < STROKES; stroke++) {
-                if (canTry(0, hand, stroke)) {
+                if (tried(0, hand, stroke)) {
                     int[] cells = tries[1].cells;
                     int most = cells[Shape.mostCell(cells)];
-                    if (found == NONE || most < least) {
-                        found = stroke;
+                    if (lowest == NONE || most < least) {
+                        lowest = stroke;
                         least = most;
                     }
                 }
             }
-            return found;
+            return lowest;
         }
 
         int tearingStrokes(int hand) {
             int many = 0;
             tries[0].laysAs(world.sheet);
             for (int stroke = 0; stroke < STROKES; stroke++) {
-                if (canTry(0, hand, stroke) && tries[1].torn != tries[0].torn) {
+                if (tried(0, hand, stroke) && tries[1].torn != tries[0].torn) {
                     many++;
                 }
             }
@@ -986,7 +986,7 @@ public final class RolledOut {
             boolean each = above == many - at;
             for (int stroke = 0; stroke < STROKES; stroke++) {
                 boolean helps = !each || tries[at].cells[stroke / 2] > most;
-                if (helps && canTry(at, hand, stroke) && tries[at + 1].torn == tries[at].torn) {
+                if (helps && tried(at, hand, stroke) && tries[at + 1].torn == tries[at].torn) {
                     found[at] = stroke;
                     if (isPlan(at + 1, many, hand, most)) {
                         return true;
@@ -1003,7 +1003,7 @@ public final class RolledOut {
             tries[0].laysAs(kept.sheet);
             tries[0].turn = world.sheet.turn;
             for (int stroke = 0; stroke < STROKES; stroke++) {
-                if (canTry(0, hand, stroke)) {
+                if (tried(0, hand, stroke)) {
                     if (tries[1].laysLike(world.sheet)) {
                         ways++;
                         lowestOfOne = lowestOfOne == NONE ? stroke : lowestOfOne;
@@ -1017,7 +1017,7 @@ public final class RolledOut {
         private void seekSecond(int hand, int first) {
             int unlike = tries[1].unlike(world.sheet);
             for (int stroke = 0; stroke < STROKES; stroke++) {
-                if ((unlike & ~touched(stroke)) == 0 && canTry(1, hand, stroke)
+                if ((unlike & ~touched(stroke)) == 0 && tried(1, hand, stroke)
                         && tries[2].laysLike(world.sheet)) {
                     ways++;
                     lowestOfTwo = lowestOfTwo == NONE ? first : lowestOfTwo;
