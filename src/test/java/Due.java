@@ -4,15 +4,21 @@ import java.nio.charset.StandardCharsets;
 final class Due {
     private static int asked;
     private static int wrong;
+    private static String test = "";
 
     private Due() {
+    }
+
+    /** What stands ahead of each wrong answer from now on. */
+    static void within(String name) {
+        test = name;
     }
 
     static void is(String call, long got, long want) {
         asked++;
         if (got != want) {
             wrong++;
-            System.out.println(call + " answered " + got + ", due is " + want);
+            System.out.println(test + call + " answered " + got + ", due is " + want);
         }
     }
 
@@ -48,6 +54,79 @@ final class Due {
     static int read(RolledOut x, String text) {
         put(x, text);
         return x.text();
+    }
+
+    /** A new object with a hand of each of these strengths. */
+    static RolledOut made(int... strengths) {
+        RolledOut x = new RolledOut();
+        for (int i = 0; i < strengths.length; i++) {
+            is("hand(" + strengths[i] + ")", x.hand(strengths[i]), i);
+        }
+        return x;
+    }
+
+    /** A new object with one hand, of strength 1, on which a text rules. */
+    static RolledOut ruled(String text) {
+        RolledOut x = made(1);
+        rule(x, text);
+        return x;
+    }
+
+    static void rule(RolledOut x, String text) {
+        int number = read(x, text);
+        is("text() of [" + text + "]", number, x.about(2) - 1);
+        is("by its number", x.by(number), true);
+    }
+
+    /** Turns pass until it is this one. */
+    static void pass(RolledOut x, int turn) {
+        for (int left = turn - x.is(0); left > 0; left -= 60) {
+            x.roll(Math.min(60, left));
+        }
+        is("turn", x.is(0), turn);
+    }
+
+    /** X as it is behind so many draws. */
+    static int drawn(int x, int draws) {
+        int then = x;
+        for (int i = 0; i < draws; i++) {
+            then = (then * 541 + 419) % 30713;
+        }
+        return then;
+    }
+
+    static void row(RolledOut x, int... dough) {
+        for (int cell = 0; cell < dough.length; cell++) {
+            is("dough of cell " + cell, x.of(cell, 0), dough[cell]);
+        }
+    }
+
+    /** All that can be asked of what steps change, in one line: two objects are so alike, or one behind two calls. */
+    static String all(RolledOut x) {
+        StringBuilder line = new StringBuilder();
+        for (int cell = 0; cell < 12; cell++) {
+            line.append(x.of(cell, 0)).append('/').append(x.of(cell, 2)).append(' ');
+        }
+        for (int what = 0; what < 5; what++) {
+            line.append(" is").append(what).append('=').append(x.is(what));
+        }
+        for (int what = 0; what < 7; what++) {
+            line.append(" about").append(what).append('=').append(x.about(what));
+        }
+        line.append(" fallen=").append(x.fallen()).append(" book");
+        for (int i = 0; i < x.book(RolledOut.NONE, 0); i++) {
+            line.append(' ').append(x.book(i, 0)).append('/').append(x.book(i, 1)).append('/').append(x.book(i, 2))
+                    .append('/').append(x.book(i, 3));
+        }
+        return line.toString();
+    }
+
+    static void same(String what, String got, String want) {
+        asked++;
+        if (!got.equals(want)) {
+            wrong++;
+            System.out.println(test + what + "\n  is  " + got + "\n  not " + want);
+        }
     }
 
     /** Reads a text that has a fault, on an object of its own. */
