@@ -574,7 +574,8 @@ public final class RolledOut {
         void write(int hand, int way, int much) {
             long who = (turn * 4L + hand) * 32 + way;
             book[written % BOOK] = who << 32 | much;
-            written++;
+            // goes round above a full book, so that it never wraps below 0
+            written = written + 1 < 2 * BOOK ? written + 1 : BOOK;
         }
 
         int bookSize() {

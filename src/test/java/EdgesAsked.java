@@ -149,6 +149,23 @@ final class EdgesAsked {
         Due.is("no 30th", x.book(30, 2), -2);
     }
 
+    @Says(promise = 22, words = "BOOK (the latest 30 strokes)")
+    static void theBookGoesRound() {
+        RolledOut x = Due.made(1);
+        for (int i = 0; i < 95; i++) {
+            x.dough(3, 2 * i + 10);
+            x.stroke(0, 3, true);
+            if (i >= 28) {
+                Due.is("how many behind " + (i + 1), x.book(-1, 0), Math.min(30, i + 1));
+                Due.is("the eldest behind " + (i + 1), x.book(0, 3), Math.max(0, i - 29) + 5);
+                Due.is("the latest behind " + (i + 1), x.book(Math.min(29, i), 3), i + 5);
+            }
+        }
+        for (int i = 0; i < 30; i++) {
+            Due.is("stroke " + i, x.book(i, 3), 65 + i + 5);
+        }
+    }
+
     @Says(promise = 22, words = "the i-th, from the eldest on: 0 TURN, 1 HAND, 2 twice the CELL, and 1 if to the right, 3 how much.")
     static void eachPartAtItsMost() {
         RolledOut x = Due.made(1, 2, 3, 4);

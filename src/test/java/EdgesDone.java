@@ -560,6 +560,20 @@ final class EdgesDone {
         Due.is("the first five", x.of(4, 2), 63);
     }
 
+    @Says(promise = 16, words = "TOWNS, DOUGH told since are as told")
+    static void aTownToldBehind30StepsIsAsToldBehindAll() {
+        RolledOut x = new RolledOut();
+        x.roll(35);
+        x.town(7);
+        x.town(0);
+        for (int i = 29; i >= 0; i--) {
+            Due.is("undo()", x.undo(), i);
+            Due.is("ofTown(0)", x.ofTown(0), 7);
+            Due.is("ofTown(1)", x.ofTown(1), 0);
+        }
+        Due.is("about(1)", x.about(1), 2);
+    }
+
     @Says(promise = 16, words = "(DOUGH, TORN, TOWNS, EDGE, BALL, TURN, X, BOOK are as ahead of it")
     static void theSixthTownAndTheThirtiethStrokeAreAsAheadOfIt() {
         RolledOut x = Due.ruled("moves 18;");

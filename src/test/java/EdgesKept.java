@@ -348,14 +348,13 @@ final class EdgesKept {
             x.dough(i % 12, 10 + i);
             x.stroke(0, i % 12, true);
         }
-        int eldest = x.book(0, 3);
-        int latest = x.book(29, 3);
         x.image();
         x.dough(0, 1);
         x.roll(50);
         x.back();
-        Due.is("the eldest stroke", x.book(0, 3), eldest);
-        Due.is("the latest stroke", x.book(29, 3), latest);
+        for (int i = 0; i < 30; i++) {
+            Due.is("stroke " + i, x.book(i, 2), 2 * ((i + 3) % 12) + 1);
+        }
         Due.is("the sixth town", x.ofTown(5), 11);
         for (int i = 29; i >= 0; i--) {
             Due.is("undo()", x.undo(), i);

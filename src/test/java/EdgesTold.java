@@ -301,6 +301,10 @@ final class EdgesTold {
         x.dough(0, 999);
         Due.is("moves", x.moves(0, 0, true), 147);
         Due.is("300 blanks", Due.read(x, " ".repeat(300)), 1);
+        for (String one : new String[] {";", "1 ", "(", "a", "9", "<", "\u00ff"}) {
+            Due.is("300 bytes of " + one, Due.read(x, one.repeat(300 / one.length())), -1);
+            Due.is("fault(1)", x.fault(1), 0);
+        }
         Due.is("a fault at the last byte", Due.read(x, " ".repeat(299) + ";"), -1);
         Due.is("fault(1)", x.fault(1), 299);
         Due.is("a fault at the end", Due.read(x, " ".repeat(296) + "trim"), -1);
