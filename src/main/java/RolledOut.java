@@ -1264,7 +1264,7 @@ public final class RolledOut {
             }
             for (int parts = 2; parts <= hands; parts++) {
                 for (int from = 0; from + parts <= CELLS; from++) {
-                    int least = Integer.MAX_VALUE;
+                    int least = table[ENDS]; // what all cells have: no part has more
                     int first = 0;
                     for (int next = from + 1; next + parts - 1 <= CELLS; next++) {
                         first += cells[next - 1];

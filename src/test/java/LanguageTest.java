@@ -6,6 +6,8 @@ import java.lang.reflect.Modifier;
 import java.nio.file.Files;
 import java.nio.file.Path;
 import java.util.Arrays;
+import java.util.Collections;
+import java.util.Map;
 import java.util.Set;
 import java.util.TreeSet;
 import java.util.regex.Matcher;
@@ -25,6 +27,13 @@ public final class LanguageTest {
             back()int about(int)int
             """;
 
+    private static final Set<String> LIBRARY = Set.of("java/lang/Integer.bitCount(I)I", "java/lang/Math.abs(I)I",
+            "java/lang/Math.max(II)I", "java/lang/Math.max(JJ)J", "java/lang/Math.min(II)I", "java/lang/Math.min(JJ)J",
+            "java/lang/Object.<init>()V", "java/lang/String.charAt(I)C", "java/lang/String.length()I",
+            "java/lang/System.arraycopy(Ljava/lang/Object;ILjava/lang/Object;II)V", "java/util/Arrays.copyOf([II)[I",
+            "java/util/Arrays.fill([II)V");
+    private static final Set<String> READING = Set.of("sum", "product", "one", "choice", "either", "both", "ask");
+
     private LanguageTest() {
     }
 
@@ -34,6 +43,7 @@ public final class LanguageTest {
         members();
         words(bare(source));
         methods(bare(source));
+        compiled(Compiled.of(RolledOut.class));
         Due.end("LanguageTest");
     }
 
@@ -104,7 +114,7 @@ public final class LanguageTest {
         }
         Matcher calls = Pattern.compile("\\b(System|Arrays|Math|Integer|Long|String)\\.(\\w+)").matcher(source);
         Set<String> fine = Set.of("System.arraycopy", "Arrays.fill", "Arrays.copyOf", "Math.min", "Math.max",
-                "Math.abs", "Integer.bitCount", "Integer.MAX_VALUE");
+                "Math.abs", "Integer.bitCount");
         while (calls.find()) {
             so(calls.group() + " is of the library", fine.contains(calls.group()));
         }
@@ -120,5 +130,40 @@ public final class LanguageTest {
             long lines = source.substring(m.start(), end).lines().count();
             so(m.group().trim() + " has sixty lines at most, not " + lines, lines <= 60);
         }
+    }
+
+    private static void compiled(Compiled all) {
+        for (Map.Entry<String, Compiled.Code> method : all.methods.entrySet()) {
+            String name = method.getKey();
+            Compiled.Code code = method.getValue();
+            for (String call : code.calls) {
+                so(name + " calls " + call, all.methods.containsKey(call) || LIBRARY.contains(call));
+            }
+            for (String field : code.statics) {
+                so(name + " looks up " + field, field.startsWith("RolledOut"));
+            }
+            so(name + " throws, locks and catches nothing, and makes no lambda", code.caught == 0
+                    && Collections.disjoint(code.instructions, Set.of(0xba, 0xbf, 0xc2, 0xc3)));
+            so(name + " goes eight deep at most, not " + all.depth(name), all.depth(name) <= 8);
+            makes(name, code);
+            recursion(all, name, code);
+        }
+    }
+
+    /** All is made by constructors, but what a text that is read keeps: so the room that calls take stays small. */
+    private static void makes(String name, Compiled.Code code) {
+        boolean once = name.contains(".<init>") || name.contains(".<clinit>");
+        boolean reads = name.contains("Reader.readTape") || name.contains("Reader.readLaw");
+        so(name + " makes nothing", once || reads || code.made.isEmpty());
+        so(name + " copies nothing", reads || !code.calls.contains("java/util/Arrays.copyOf([II)[I"));
+    }
+
+    /** Laws are read, and plans sought, by methods that call themselves; how deep is an argument of each. */
+    private static void recursion(Compiled all, String name, Compiled.Code code) {
+        boolean again = code.calls.contains(name) || all.ring(name).size() > 1;
+        boolean reading = name.startsWith("RolledOut$Reader.")
+                && READING.contains(name.substring(name.indexOf('.') + 1, name.indexOf('(')));
+        so(name + " doesn't call itself", !again || reading || name.equals("RolledOut$Trials.isPlan(IIII)Z"));
+        so(name + " carries how deep it is", !reading || name.endsWith("(II)Z"));
     }
 }
